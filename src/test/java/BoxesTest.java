@@ -122,6 +122,12 @@ public final class BoxesTest {
         faultAt("w2,0,0;p99;zzz", 7);
         faultAt("w2,0,0;p1;zzz", 10);
         CrankedExcuse x = Check.written("w2,0,0;zz");
+        // what an earlier text told is not told ahead in the next one
+        CrankedExcuse two = Check.written("w2,0,0;w3,0,0;p0;x0,0,1,0;o9,9;");
+        two.fault();
+        two.wipe();
+        Check.writeTo(two, "w2,0,0;x0,0,1,0;");
+        due("4 told in an earlier text alone", two.fault(), 7);
         due("4 fault, asked again", x.fault() * 100 + x.fault(), 707);
         due("4 the text stays", x.count(10), 9);
         due("4 what is laid stays", x.count(0), 3);
@@ -201,6 +207,19 @@ public final class BoxesTest {
         due("5 the last o counts: W", several.sell(1), 6);
         due("5 NO: only persons", Check.written("p0;").lay(), CrankedExcuse.NO);
         due("5 NO: empty", new CrankedExcuse().lay(), CrankedExcuse.NO);
+        // reading another text leaves alone what is laid, and takes nothing along from it
+        CrankedExcuse z = Check.laid("w2,1,0;w3,0,1;x0,1,1,1;p2;p0;o3,9;");
+        z.wipe();
+        Check.writeTo(z, "w5,2,3;");
+        due("5 no fault", z.fault(), CrankedExcuse.NONE);
+        due("5 laid as before", z.count(2) * 10 + z.count(1), 62);
+        due("5 teeth do not go together as before", z.sense(3), 0);
+        z.lay();
+        due("5 nobody left", z.count(1), 0);
+        due("5 all goes together", z.sensible(0), 5);
+        z.file(0, 3);
+        z.gear(0, 0);
+        due("5 worth as without o", z.sell(1), 60);
         CrankedExcuse y = Check.written("w2,0,0;w");
         y.crank();
         y.keep();

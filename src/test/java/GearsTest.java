@@ -15,6 +15,7 @@ public final class GearsTest {
         year();
         yearFromNow();
         yearSeenThrough();
+        yearDraws();
         keep();
         back();
         count();
@@ -171,6 +172,17 @@ public final class GearsTest {
         x.undo();
         x.give(0, 1);
         due("30 heard from the same one", x.year(0, 1, 1), 0);
+    }
+
+    /** z 1: DRAW is 2850, 6762, 1590, 3714: person 0 each time; a day goes by behind the third. */
+    private static void yearDraws() {
+        CrankedExcuse x = Check.laid("w2,0,0;w6,1,0;p0;p0;p0;");
+        x.give(2, 1);
+        int[] seen = {1, 2, 3, 3};
+        for (int n = 1; n <= 4; n++) {
+            due("30 given in " + n, x.year(1, n, 0), n);
+            due("30 seen through in " + n, x.year(1, n, 1), seen[n - 1]);
+        }
     }
 
     private static void keep() {
