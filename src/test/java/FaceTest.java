@@ -8,6 +8,8 @@ import java.util.TreeSet;
 /** The class's face: what the document names is public, all else is private. */
 public final class FaceTest {
     private static final Check CHECK = new Check("FaceTest");
+    private static final int PARAMETERS_MOST = 7;
+    private static final int FIELDS_MOST = 20;
     private static final String[] METHODS = {"int write(int)", "int wipe()", "int fault()", "int lay()",
         "int wheel(int,int)", "int talks(int)", "int heard(int,int)", "int sense(int)", "int stale(int,int)",
         "int crank()", "int give(int,int)", "int day()", "int file(int,int)", "int gear(int,int)", "int undo()",
@@ -40,6 +42,11 @@ public final class FaceTest {
                     Modifier.isPublic(m.getModifiers()) || !publicNames.contains(m.getName()));
         }
         fields(face);
+        bounds(face);
+        for (Class<?> inside : face.getDeclaredClasses()) {
+            inside(inside, publicNames);
+            bounds(inside);
+        }
         Constructor<?>[] constructors = face.getDeclaredConstructors();
         CHECK.due("one constructor", constructors.length, 1);
         CHECK.due("public, without arguments",
@@ -59,5 +66,31 @@ public final class FaceTest {
             }
         }
         CHECK.due("constants " + constants, constants.equals(Set.of("BAD", "NO", "FULL", "NONE")));
+    }
+
+    /** Rules 1, 2 and 5: a class inside is private and static, and hides no call of the face. */
+    private static void inside(Class<?> inside, Set<String> publicNames) {
+        int how = inside.getModifiers();
+        CHECK.due(inside + " is private and static", Modifier.isPrivate(how) && Modifier.isStatic(how));
+        for (Method m : inside.getDeclaredMethods()) {
+            CHECK.due(m + " bears a public one's name", !publicNames.contains(m.getName()));
+            CHECK.due(m + " is inside alone", !Modifier.isPublic(m.getModifiers()));
+        }
+        for (Field f : inside.getDeclaredFields()) {
+            CHECK.due(f + " is no static state", Modifier.isFinal(f.getModifiers())
+                    || !Modifier.isStatic(f.getModifiers()));
+        }
+    }
+
+    /** Rule 11 */
+    private static void bounds(Class<?> type) {
+        int fields = 0;
+        for (Field f : type.getDeclaredFields()) {
+            fields += Modifier.isStatic(f.getModifiers()) ? 0 : 1;
+        }
+        CHECK.due(type + " has few fields: " + fields, fields <= FIELDS_MOST);
+        for (Method m : type.getDeclaredMethods()) {
+            CHECK.due(m + " takes few parameters", m.getParameterCount() <= PARAMETERS_MOST);
+        }
     }
 }
